@@ -14,6 +14,7 @@ public final class ExpansionTest {
         twoHundredSignsAreTheMost();
         longArgumentsGoThroughAllBodies();
         failuresLeaveTheResult();
+        failuresLeaveNothingBehind();
         expandIsUndoable();
         incompleteTextsAreRefused();
         Checks.end();
@@ -181,6 +182,18 @@ public final class ExpansionTest {
         Checks.due("the buffer stays", 5, book.count(7));
         Checks.due("those that did not fail", 1, book.count(3));
         Checks.due("those that failed", 1, book.count(4));
+    }
+
+    /** An expansion that stops in the middle of many open calls is no burden for the next ones. */
+    private static void failuresLeaveNothingBehind() {
+        AbbreviationBook book = Checks.book("A=" + FIFTY, "B=x?");
+        Checks.type(book, "B(B(B(B(B(B(B(B(AAAAA))))))))");
+        for (int i = 1; i <= 300; i++) {
+            book.expand();
+        }
+        Checks.due("all of them failed", 300, book.count(4));
+        dueText(book, "B(B(B(B(B(B(B(B(A))))))))", "x".repeat(8) + FIFTY);
+        Checks.due("lengthOf", 21, book.lengthOf(1, 20));
     }
 
     private static void expandIsUndoable() {
