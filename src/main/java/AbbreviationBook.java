@@ -605,7 +605,6 @@ public final class AbbreviationBook {
         void tryBody(int letter, int calledInIt) {
             if (isLetter(letter)) {
                 called[letter] = calledInIt;
-                defined |= 1 << letter;
             }
         }
 

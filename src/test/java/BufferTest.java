@@ -15,7 +15,7 @@ public final class BufferTest {
     }
 
     private static void appendTakesCodes() {
-        AbbreviationBook book = new AbbreviationBook();
+        Book book = new Book();
         for (int i = 0; i < 60; i++) {
             Checks.due("append " + i, i + 1, book.append(33 + i));
         }
@@ -43,7 +43,7 @@ public final class BufferTest {
     }
 
     private static void clearBufferAnswersTheLength() {
-        AbbreviationBook book = new AbbreviationBook();
+        Book book = new Book();
         Checks.due("clearing the empty buffer", 0, book.clearBuffer());
         Checks.type(book, "A(b");
         Checks.due("clearing", 3, book.clearBuffer());
@@ -74,14 +74,14 @@ public final class BufferTest {
         dueError("A(B(),,,,,C(,)", ",");
         dueError("A(b)c", ")", ",");
         dueError("A(B)", "(");
-        AbbreviationBook book = new AbbreviationBook();
+        Book book = new Book();
         Checks.type(book, "a)),");
         Checks.due("the first one of many", 1, book.firstError());
     }
 
     private static void dueNoError(String... texts) {
         for (String text : texts) {
-            AbbreviationBook book = new AbbreviationBook();
+            Book book = new Book();
             Checks.type(book, text);
             Checks.due("firstError of " + text, text.length(), book.firstError());
         }
@@ -91,7 +91,7 @@ public final class BufferTest {
     private static void dueError(String before, String... wrongOnes) {
         for (String wrong : wrongOnes) {
             for (String behind : new String[] {"", "b", ")", "A(c)"}) {
-                AbbreviationBook book = new AbbreviationBook();
+                Book book = new Book();
                 Checks.type(book, before + wrong + behind);
                 Checks.due("firstError of " + before + wrong + behind, before.length(), book.firstError());
             }
@@ -99,14 +99,14 @@ public final class BufferTest {
     }
 
     private static void firstErrorChangesNothing() {
-        AbbreviationBook asked = typed("A(b)!").get();
+        Book asked = typed("A(b)!").get();
         asked.firstError();
         Checks.due("firstError changes nothing",
                 Checks.factsOf(typed("A(b)!").get()), Checks.factsOf(asked));
     }
 
     private static void loadPutsTheBody() {
-        AbbreviationBook book = Checks.book("A=aB()C(?,D,)_E", "B=", "C=" + "x?".repeat(30));
+        Book book = Checks.book("A=aB()C(?,D,)_E", "B=", "C=" + "x?".repeat(30));
         Checks.type(book, "A(b");
         Checks.due("load(0)", 13, book.load(0));
         Checks.due("the length", 13, book.count(7));
@@ -138,7 +138,7 @@ public final class BufferTest {
     }
 
     private static void theBufferIsNotUndone() {
-        AbbreviationBook book = Checks.book("A=abc");
+        Book book = Checks.book("A=abc");
         book.set(3);
         book.load(0);
         book.undo();
@@ -152,9 +152,9 @@ public final class BufferTest {
         Checks.due("its text", "abcd", Checks.resultOf(book));
     }
 
-    private static Supplier<AbbreviationBook> typed(String text) {
+    private static Supplier<Book> typed(String text) {
         return () -> {
-            AbbreviationBook book = Checks.book("A=a?", "B=A(b)");
+            Book book = Checks.book("A=a?", "B=A(b)");
             Checks.expand(book, "B");
             Checks.type(book, text);
             return book;

@@ -32,8 +32,8 @@ final class Checks {
 
     /** The call throws exactly this exception, and a book on which it was tried is as one without. */
     static void refuses(String what, Class<? extends RuntimeException> want,
-            Supplier<AbbreviationBook> maker, Consumer<AbbreviationBook> call) {
-        AbbreviationBook tried = maker.get();
+            Supplier<Book> maker, Consumer<Book> call) {
+        Book tried = maker.get();
         dueThrow(what, want, () -> {
             call.accept(tried);
             return 0;
@@ -51,21 +51,21 @@ final class Checks {
     }
 
     /** Makes a book of definitions such as "A=a?b"; its buffer is empty then. */
-    static AbbreviationBook book(String... definitions) {
-        AbbreviationBook book = new AbbreviationBook();
+    static Book book(String... definitions) {
+        Book book = new Book();
         for (String definition : definitions) {
             define(book, definition);
         }
         return book;
     }
 
-    static int define(AbbreviationBook book, String definition) {
+    static int define(Book book, String definition) {
         type(book, definition.substring(2));
         return book.define(definition.charAt(0) - 'A');
     }
 
     /** Puts a text into the buffer, in place of what was there. */
-    static void type(AbbreviationBook book, String text) {
+    static void type(Book book, String text) {
         book.clearBuffer();
         for (int i = 0; i < text.length(); i++) {
             book.append(text.charAt(i));
@@ -73,37 +73,42 @@ final class Checks {
     }
 
     /** Types a text and expands it; "failed" stands for an expansion that fails. */
-    static String expand(AbbreviationBook book, String text) {
+    static String expand(Book book, String text) {
         type(book, text);
         int length = book.expand();
-        if (length == AbbreviationBook.NONE) {
+        if (length == Book.NONE) {
             return "failed";
         }
-        due("length of the result of " + text, length, resultOf(book).length());
-        return resultOf(book);
+        String result = resultOf(book);
+        due("length of the result of " + text, length, result.length());
+        return result;
     }
 
-    static String resultOf(AbbreviationBook book) {
+    static String resultOf(Book book) {
         StringBuilder text = new StringBuilder();
-        for (int i = 0; book.sign(i) != AbbreviationBook.NONE; i++) {
+        int length = book.result(0);
+        for (int i = 0; i < length; i++) {
             text.append((char) book.sign(i));
         }
+        due("behind the last sign", Book.NONE, book.sign(length));
         return text.toString();
     }
 
     /** The calls of the trace, each as its letter and its numbers 1 to 5. */
-    static String traceOf(AbbreviationBook book) {
+    static String traceOf(Book book) {
         StringBuilder text = new StringBuilder();
-        for (int i = 0; book.trace(i, 0) != AbbreviationBook.NONE; i++) {
+        int length = book.result(7);
+        for (int i = 0; i < length; i++) {
             text.append(i == 0 ? "" : " ").append((char) ('A' + book.trace(i, 0)));
             for (int what = 1; what <= 5; what++) {
                 text.append(what == 1 ? "" : ",").append(book.trace(i, what));
             }
         }
+        due("behind the last call", Book.NONE, book.trace(length, 0));
         return text.toString();
     }
 
-    static String countsOf(AbbreviationBook book) {
+    static String countsOf(Book book) {
         StringBuilder text = new StringBuilder();
         for (int what = 0; what <= 7; what++) {
             text.append(what == 0 ? "" : " ").append(book.count(what));
@@ -120,28 +125,42 @@ final class Checks {
         return set;
     }
 
-    /** The facts of a book, its buffer, saved states and snapshots too; the book is used up by it. */
-    static String factsOf(AbbreviationBook book) {
+    /** The facts of a book, its saved states, snapshots and buffer too; the book is used up by it. */
+    static String factsOf(Book book) {
         StringBuilder facts = new StringBuilder(stateOf(book));
-        facts.append(" buffer ").append(book.firstError());
-        facts.append(" expand ").append(outcomeOf(book::expand)).append(resultOf(book));
+        for (int saved = book.count(6); saved >= 0; saved--) {
+            facts.append("; undo ").append(outcomeOf(book::undo)).append(": ").append(stateOf(book));
+        }
         for (int slot = 0; slot < 2; slot++) {
             int place = slot;
-            facts.append(" slot ").append(outcomeOf(() -> book.goBack(place))).append(stateOf(book));
+            facts.append("; slot ").append(outcomeOf(() -> book.goBack(place))).append(": ").append(stateOf(book));
         }
-        for (int i = 0; i < 7; i++) {
-            facts.append(" undo ").append(outcomeOf(book::undo)).append(stateOf(book));
+        return facts.append("; buffer ").append(bufferOf(book)).toString();
+    }
+
+    private static String stateOf(Book book) {
+        StringBuilder facts = new StringBuilder(countsOf(book));
+        facts.append(' ').append(resultOf(book)).append(' ').append(traceOf(book));
+        int defined = book.count(1);
+        for (int letter = 0; letter < 26; letter++) {
+            if ((defined & 1 << letter) != 0) {
+                facts.append(' ').append((char) ('A' + letter)).append(book.body(letter, 0));
+                facts.append(',').append(book.body(letter, 1)).append(',').append(book.uses(letter, 0));
+            }
         }
         return facts.toString();
     }
 
-    private static String stateOf(AbbreviationBook book) {
-        StringBuilder facts = new StringBuilder(countsOf(book));
-        facts.append(' ').append(resultOf(book)).append(' ').append(traceOf(book));
-        for (int letter = 0; letter < 3; letter++) {
-            facts.append(' ').append(book.body(letter, 0)).append(' ').append(book.uses(letter, 0));
+    /** What the buffer's text expands to, if need be when the calls that are open in it are closed. */
+    private static String bufferOf(Book book) {
+        StringBuilder facts = new StringBuilder();
+        facts.append(book.count(7)).append(' ').append(book.firstError());
+        String outcome = outcomeOf(book::expand);
+        for (int i = 0; i < 3 && outcome.equals("IllegalArgumentException"); i++) {
+            outcomeOf(() -> book.append(')'));
+            outcome = outcomeOf(book::expand);
         }
-        return facts.toString();
+        return facts.append(' ').append(outcome).append(' ').append(stateOf(book)).toString();
     }
 
     /** Ends the test, with exit code 1 if an answer was not the one that is due. */

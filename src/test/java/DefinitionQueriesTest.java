@@ -33,14 +33,14 @@ public final class DefinitionQueriesTest {
         dueBody("A(".repeat(20) + ")".repeat(20), "60 0 20 1 20 0");
         dueBody("A(".repeat(19) + "B" + ")".repeat(19), "58 0 20 1 20 0");
         dueBody("?".repeat(60), "60 60 0 0 0 0");
-        AbbreviationBook book = Checks.book("B=b");
+        Book book = Checks.book("B=b");
         for (int what = 0; what <= 5; what++) {
             Checks.due("body of what is not defined", -1, book.body(0, what));
         }
     }
 
     private static void dueBody(String text, String want) {
-        AbbreviationBook book = Checks.book("Z=" + text);
+        Book book = Checks.book("Z=" + text);
         StringBuilder got = new StringBuilder();
         for (int what = 0; what <= 5; what++) {
             got.append(what == 0 ? "" : " ").append(book.body(25, what));
@@ -64,7 +64,7 @@ public final class DefinitionQueriesTest {
     }
 
     private static void usesTellsSets() {
-        AbbreviationBook book = Checks.book("A=B(C)D", "B=aE()", "C=", "E=A(X)", "F=Bx", "Z=ZF");
+        Book book = Checks.book("A=B(C)D", "B=aE()", "C=", "E=A(X)", "F=Bx", "Z=ZF");
         dueUses(book, 'A', "BCD", "ABCDEX", "E", "ABEFZ");
         dueUses(book, 'B', "E", "ABCDEX", "AF", "ABEFZ");
         dueUses(book, 'C', "", "", "A", "ABEFZ");
@@ -78,7 +78,7 @@ public final class DefinitionQueriesTest {
         dueUses(book, 'A', "BCD", "BCD", "E", "E");
         dueUses(book, 'B', "", "", "AF", "AEFZ");
         // A way through all of them, against the order of the alphabet.
-        AbbreviationBook longWay = new AbbreviationBook();
+        Book longWay = new Book();
         for (char letter = 'B'; letter <= 'Z'; letter++) {
             Checks.define(longWay, letter + "=" + (char) (letter - 1));
         }
@@ -86,7 +86,7 @@ public final class DefinitionQueriesTest {
         Checks.due("up from A", Checks.set("BCDEFGHIJKLMNOPQRSTUVWXYZ"), longWay.uses(0, 3));
     }
 
-    private static void dueUses(AbbreviationBook book, char letter, String... want) {
+    private static void dueUses(Book book, char letter, String... want) {
         for (int what = 0; what <= 3; what++) {
             Checks.due("uses of " + letter + ", " + what, Checks.set(want[what]), book.uses(letter - 'A', what));
         }
@@ -108,7 +108,7 @@ public final class DefinitionQueriesTest {
     }
 
     private static void ringsAreFound() {
-        AbbreviationBook book = Checks.book("A=aB", "B=C(A)", "C=", "D=A", "Z=Q(Z)");
+        Book book = Checks.book("A=aB", "B=C(A)", "C=", "D=A", "Z=Q(Z)");
         Checks.due("rings", Checks.set("ABZ"), book.rings());
         Checks.define(book, "C=D");
         Checks.due("two rings that meet", Checks.set("ABCDZ"), book.rings());
@@ -116,7 +116,7 @@ public final class DefinitionQueriesTest {
         Checks.due("without A", Checks.set("Z"), book.rings());
         book.remove(25);
         Checks.due("none", 0, book.rings());
-        AbbreviationBook whole = new AbbreviationBook();
+        Book whole = new Book();
         for (char letter = 'A'; letter <= 'Z'; letter++) {
             Checks.define(whole, letter + "=" + (letter == 'Z' ? 'A' : (char) (letter + 1)));
         }
@@ -124,7 +124,7 @@ public final class DefinitionQueriesTest {
     }
 
     private static void missingOnesAreFound() {
-        AbbreviationBook book = Checks.book("A=B(C,D(E))", "C=", "E=Z");
+        Book book = Checks.book("A=B(C,D(E))", "C=", "E=Z");
         Checks.due("missing", Checks.set("BDZ"), book.missing());
         Checks.define(book, "Z=Z");
         Checks.due("without Z", Checks.set("BD"), book.missing());
@@ -136,7 +136,7 @@ public final class DefinitionQueriesTest {
     }
 
     private static void chainsAreMeasured() {
-        AbbreviationBook book = Checks.book("A=BC", "B=C(D)", "C=", "D=E", "E=XF", "G=GA", "H=AG", "I=H");
+        Book book = Checks.book("A=BC", "B=C(D)", "C=", "D=E", "E=XF", "G=GA", "H=AG", "I=H");
         dueChain(book, "A", 4);
         dueChain(book, "B", 3);
         dueChain(book, "C", 1);
@@ -148,7 +148,7 @@ public final class DefinitionQueriesTest {
         dueChain(book, "A", 6);
         book.remove(6);
         dueChain(book, "I", 8);
-        AbbreviationBook longest = new AbbreviationBook();
+        Book longest = new Book();
         for (char letter = 'A'; letter < 'Z'; letter++) {
             Checks.define(longest, letter + "=" + (char) (letter + 1));
         }
@@ -161,7 +161,7 @@ public final class DefinitionQueriesTest {
         dueChain(longest, "AMYZ", -1);
     }
 
-    private static void dueChain(AbbreviationBook book, String letters, int want) {
+    private static void dueChain(Book book, String letters, int want) {
         for (char letter : letters.toCharArray()) {
             Checks.due("chain of " + letter, want, book.chain(letter - 'A'));
         }
@@ -175,7 +175,7 @@ public final class DefinitionQueriesTest {
     }
 
     private static void ifDefinedTriesTheBuffer() {
-        AbbreviationBook book = Checks.book("A=B", "B=C", "D=D", "E=E");
+        Book book = Checks.book("A=B", "B=C", "D=D", "E=E");
         dueIfDefined(book, 'C', "x", "DE");
         dueIfDefined(book, 'C', "x?B(y)", "BCDE");
         dueIfDefined(book, 'C', "Z(A)", "ABCDE");
@@ -189,7 +189,7 @@ public final class DefinitionQueriesTest {
         Checks.due("the buffer stays", 5, book.count(7));
     }
 
-    private static void dueIfDefined(AbbreviationBook book, char letter, String text, String want) {
+    private static void dueIfDefined(Book book, char letter, String text, String want) {
         Checks.type(book, text);
         Checks.due("ifDefined of " + letter + " as " + text, Checks.set(want), book.ifDefined(letter - 'A'));
     }
@@ -208,7 +208,7 @@ public final class DefinitionQueriesTest {
     }
 
     private static void queriesChangeNothing() {
-        AbbreviationBook asked = some().get();
+        Book asked = some().get();
         for (int letter = 0; letter < 4; letter++) {
             for (int what = 0; what <= 3; what++) {
                 asked.body(letter, what);
@@ -222,13 +222,13 @@ public final class DefinitionQueriesTest {
         Checks.due("queries change nothing", Checks.factsOf(some().get()), Checks.factsOf(asked));
     }
 
-    private static Supplier<AbbreviationBook> some() {
+    private static Supplier<Book> some() {
         return with("A(C)");
     }
 
-    private static Supplier<AbbreviationBook> with(String text) {
+    private static Supplier<Book> with(String text) {
         return () -> {
-            AbbreviationBook book = Checks.book("A=a?B", "B=A(b)");
+            Book book = Checks.book("A=a?B", "B=A(b)");
             Checks.expand(book, "B");
             book.keep(1);
             Checks.type(book, text);

@@ -20,7 +20,7 @@ public final class DefinitionsTest {
     }
 
     private static void newObject() {
-        AbbreviationBook book = new AbbreviationBook();
+        Book book = new Book();
         Checks.due("NONE", -1, AbbreviationBook.NONE);
         Checks.due("counts of a new book", "0 0 8 0 0 0 0 0", Checks.countsOf(book));
         for (int what = 0; what <= 7; what++) {
@@ -41,8 +41,8 @@ public final class DefinitionsTest {
     }
 
     private static void objectsAreApart() {
-        AbbreviationBook one = Checks.book("A=a?");
-        AbbreviationBook other = new AbbreviationBook();
+        Book one = Checks.book("A=a?");
+        Book other = new Book();
         one.set(3);
         Checks.expand(one, "A(b)");
         one.keep(0);
@@ -52,7 +52,7 @@ public final class DefinitionsTest {
     }
 
     private static void defineCountsHoles() {
-        AbbreviationBook book = new AbbreviationBook();
+        Book book = new Book();
         Checks.due("no holes", 0, Checks.define(book, "A=abc_"));
         Checks.due("no signs", 0, Checks.define(book, "B="));
         Checks.due("two holes", 2, Checks.define(book, "C=a?b?c"));
@@ -63,7 +63,7 @@ public final class DefinitionsTest {
     }
 
     private static void defineTakesTheBuffer() {
-        AbbreviationBook book = new AbbreviationBook();
+        Book book = new Book();
         Checks.type(book, "a?");
         Checks.due("define", 1, book.define(0));
         Checks.due("the buffer is cleared", 0, book.count(7));
@@ -99,7 +99,7 @@ public final class DefinitionsTest {
     }
 
     private static void removeTakesAway() {
-        AbbreviationBook book = Checks.book("A=a", "B=b", "Z=A");
+        Book book = Checks.book("A=a", "B=b", "Z=A");
         Checks.due("remove(25)", 2, book.remove(25));
         Checks.due("remove(0)", 1, book.remove(0));
         Checks.due("B is left", Checks.set("B"), book.count(1));
@@ -122,14 +122,14 @@ public final class DefinitionsTest {
         Checks.refuses("remove of what is not defined", IllegalStateException.class,
                 typed("b"), book -> book.remove(25));
         Checks.refuses("remove once more", IllegalStateException.class, () -> {
-            AbbreviationBook book = Checks.book("A=a");
+            Book book = Checks.book("A=a");
             book.remove(0);
             return book;
         }, book -> book.remove(0));
     }
 
     private static void exchangeSwaps() {
-        AbbreviationBook book = Checks.book("A=aB", "B=b?");
+        Book book = Checks.book("A=aB", "B=b?");
         Checks.due("both are defined", 2, book.exchange(0, 1));
         Checks.due("calls in bodies stay as they are", "a#", Checks.expand(book, "B"));
         Checks.due("A is what B was", "bx", Checks.expand(book, "A(x)"));
@@ -159,7 +159,7 @@ public final class DefinitionsTest {
     }
 
     private static void setChangesTheDepth() {
-        AbbreviationBook book = new AbbreviationBook();
+        Book book = new Book();
         Checks.due("set(1)", 8, book.set(1));
         Checks.due("set(12)", 1, book.set(12));
         Checks.due("set(12) again", 12, book.set(12));
@@ -180,9 +180,9 @@ public final class DefinitionsTest {
     }
 
     /** A book with some definitions, a result and a text in its buffer. */
-    private static Supplier<AbbreviationBook> typed(String text) {
+    private static Supplier<Book> typed(String text) {
         return () -> {
-            AbbreviationBook book = Checks.book("A=a?", "B=A(b)");
+            Book book = Checks.book("A=a?", "B=A(b)");
             Checks.expand(book, "B");
             Checks.type(book, text);
             return book;

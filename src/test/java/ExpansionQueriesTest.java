@@ -21,7 +21,7 @@ public final class ExpansionQueriesTest {
     }
 
     private static void signTellsCodes() {
-        AbbreviationBook book = Checks.book("A=A", "B=b?");
+        Book book = Checks.book("A=A", "B=b?");
         book.set(1);
         Checks.expand(book, "a_?ACB(z)");
         int[] want = {'a', '_', '?', '#', '$', 'b', 'z', -1, -1};
@@ -39,7 +39,7 @@ public final class ExpansionQueriesTest {
     }
 
     private static void resultTellsNumbers() {
-        AbbreviationBook book = Checks.book("A=A?B(?)", "B=CC?", "C=DX", "D=d");
+        Book book = Checks.book("A=A?B(?)", "B=CC?", "C=DX", "D=d");
         dueResult(book, "xA(?)YA(?,_)?", "16 2 0 5 3 12 4 19");
         book.set(2);
         dueResult(book, "A(?)Z", "5 1 2 1 1 2 2 6");
@@ -48,7 +48,7 @@ public final class ExpansionQueriesTest {
         dueResult(book, "B(?)", "5 0 2 2 1 3 2 7");
     }
 
-    private static void dueResult(AbbreviationBook book, String text, String want) {
+    private static void dueResult(Book book, String text, String want) {
         Checks.expand(book, text);
         StringBuilder got = new StringBuilder();
         for (int what = 0; what <= 7; what++) {
@@ -58,7 +58,7 @@ public final class ExpansionQueriesTest {
     }
 
     private static void traceTellsCalls() {
-        AbbreviationBook book = Checks.book("A=B(?,x)", "B=?C?", "C=AZ(,y)");
+        Book book = Checks.book("A=B(?,x)", "B=?C?", "C=AZ(,y)");
         Checks.expand(book, "A(pq,r)");
         // C stands in two bodies, A and B; its A is guarded, and its Z is not defined.
         Checks.due("the trace", "A2,3,0,1,0 Z1,3,2,1,1 C0,2,0,2,0 B0,1,2,5,3 A0,0,2,5,3", Checks.traceOf(book));
@@ -78,7 +78,7 @@ public final class ExpansionQueriesTest {
     }
 
     private static void traceListsSixtyCalls() {
-        AbbreviationBook book = Checks.book("A=" + "X".repeat(40), "B=" + "Y".repeat(19));
+        Book book = Checks.book("A=" + "X".repeat(40), "B=" + "Y".repeat(19));
         Checks.expand(book, "AB");
         Checks.due("listed", 60, book.result(7));
         Checks.due("the 41st", 0, book.trace(40, 0));
@@ -93,7 +93,7 @@ public final class ExpansionQueriesTest {
     }
 
     private static void lengthOfCountsArguments() {
-        AbbreviationBook book = Checks.book("A=a?b?c", "B=A(?,?)?", "C=", "D=A(A(?),xZ)D", "E=?C(?)?C",
+        Book book = Checks.book("A=a?b?c", "B=A(?,?)?", "C=", "D=A(A(?),xZ)D", "E=?C(?)?C",
                 "F=?????????", "G=F(?,?,?,?,?,?)");
         dueLength(book, 'A', 0, 3);
         dueLength(book, 'A', 2, 7);
@@ -110,7 +110,7 @@ public final class ExpansionQueriesTest {
     }
 
     private static void lengthOfMeetsTheBounds() {
-        AbbreviationBook book = Checks.book("A=" + "?".repeat(10), "B=" + "?".repeat(10) + "a",
+        Book book = Checks.book("A=" + "?".repeat(10), "B=" + "?".repeat(10) + "a",
                 "C=D(" + "?".repeat(10) + ")", "D=", "E=D(?????,??????)D(" + "?".repeat(10) + "a)");
         dueLength(book, 'A', 20, 200);
         dueLength(book, 'B', 20, -1);
@@ -118,10 +118,10 @@ public final class ExpansionQueriesTest {
         dueLength(book, 'C', 20, 0);
         dueLength(book, 'E', 20, -1);
         dueLength(book, 'E', 19, 0);
-        AbbreviationBook full = Checks.book("A=" + "?".repeat(60));
+        Book full = Checks.book("A=" + "?".repeat(60));
         dueLength(full, 'A', 3, 180);
         dueLength(full, 'A', 4, -1);
-        AbbreviationBook many = Checks.book("A=" + "B".repeat(5) + "D".repeat(4), "B=CCCCCCCCCC", "C=", "D=",
+        Book many = Checks.book("A=" + "B".repeat(5) + "D".repeat(4), "B=CCCCCCCCCC", "C=", "D=",
                 "E=A", "F=A(D)");
         dueLength(many, 'A', 0, 0);
         dueLength(many, 'E', 0, -1);
@@ -131,7 +131,7 @@ public final class ExpansionQueriesTest {
     }
 
     private static void lengthOfFollowsTheState() {
-        AbbreviationBook book = Checks.book("A=xB", "B=yyC", "C=zzzzA");
+        Book book = Checks.book("A=xB", "B=yyC", "C=zzzzA");
         dueLength(book, 'A', 0, 8);
         book.set(2);
         dueLength(book, 'A', 0, 4);
@@ -142,7 +142,7 @@ public final class ExpansionQueriesTest {
         dueLength(book, 'B', 0, -1);
     }
 
-    private static void dueLength(AbbreviationBook book, char letter, int length, int want) {
+    private static void dueLength(Book book, char letter, int length, int want) {
         Checks.due("lengthOf " + letter + " with " + length, want, book.lengthOf(letter - 'A', length));
     }
 
@@ -162,7 +162,7 @@ public final class ExpansionQueriesTest {
     }
 
     private static void countTellsNumbers() {
-        AbbreviationBook book = Checks.book("A=BC(D)?", "Z=A", "C=" + "a".repeat(60));
+        Book book = Checks.book("A=BC(D)?", "Z=A", "C=" + "a".repeat(60));
         dueCounts(book, "3 " + Checks.set("ACZ") + " 8 0 0 4 3 0");
         Checks.expand(book, "Z");
         Checks.expand(book, "CCCC");
@@ -175,12 +175,12 @@ public final class ExpansionQueriesTest {
         dueCounts(book, "3 " + Checks.set("ACZ") + " 11 1 1 4 5 2");
     }
 
-    private static void dueCounts(AbbreviationBook book, String want) {
+    private static void dueCounts(Book book, String want) {
         Checks.due("counts", want, Checks.countsOf(book));
     }
 
     private static void meanHolesDivides() {
-        AbbreviationBook book = new AbbreviationBook();
+        Book book = new Book();
         Checks.due("without definitions", 0.0, book.meanHoles());
         Checks.define(book, "A=B(?,?)");
         Checks.due("of one", 2.0, book.meanHoles());
@@ -217,7 +217,7 @@ public final class ExpansionQueriesTest {
     }
 
     private static void queriesChangeNothing() {
-        AbbreviationBook asked = some().get();
+        Book asked = some().get();
         for (int i = 0; i <= 5; i++) {
             asked.sign(i);
             asked.result(i);
@@ -229,9 +229,9 @@ public final class ExpansionQueriesTest {
         Checks.due("queries change nothing", Checks.factsOf(some().get()), Checks.factsOf(asked));
     }
 
-    private static Supplier<AbbreviationBook> some() {
+    private static Supplier<Book> some() {
         return () -> {
-            AbbreviationBook book = Checks.book("A=a?B(?)", "B=?C?");
+            Book book = Checks.book("A=a?B(?)", "B=?C?");
             Checks.expand(book, "A(b)");
             book.keep(0);
             Checks.type(book, "AB(?");

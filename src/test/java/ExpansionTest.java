@@ -11,7 +11,9 @@ public final class ExpansionTest {
         guardedComesBeforeTooDeep();
         argumentsAreExpandedWhereTheCallStands();
         sixtyCallsAreTheMost();
+        callsThatAreNotExpandedDoNotCount();
         twoHundredSignsAreTheMost();
+        argumentsHaveTheSameBound();
         longArgumentsGoThroughAllBodies();
         failuresLeaveTheResult();
         failuresLeaveNothingBehind();
@@ -20,12 +22,12 @@ public final class ExpansionTest {
         Checks.end();
     }
 
-    private static void dueText(AbbreviationBook book, String text, String want) {
+    private static void dueText(Book book, String text, String want) {
         Checks.due("expansion of " + text, want, Checks.expand(book, text));
     }
 
     private static void signsAreWrittenAsTheyAre() {
-        AbbreviationBook book = new AbbreviationBook();
+        Book book = new Book();
         dueText(book, "", "");
         dueText(book, "az_b", "az_b");
         dueText(book, "a?b??", "a?b??");
@@ -36,7 +38,7 @@ public final class ExpansionTest {
     }
 
     private static void holesAreFilled() {
-        AbbreviationBook book = Checks.book("A=a?b?c", "B=", "C=????????");
+        Book book = Checks.book("A=a?b?c", "B=", "C=????????");
         dueText(book, "A(x,yy)", "axbyyc");
         dueText(book, "A", "abc");
         dueText(book, "A()", "abc");
@@ -49,7 +51,7 @@ public final class ExpansionTest {
     }
 
     private static void callsAreExpandedFromTheInside() {
-        AbbreviationBook book = Checks.book("A=?B(?)?", "B=x?x", "C=B(?,?)A(B(?),A)?", "D=a?b?c");
+        Book book = Checks.book("A=?B(?)?", "B=x?x", "C=B(?,?)A(B(?),A)?", "D=a?b?c");
         dueText(book, "A(p,q,r)", "pxqxr");
         dueText(book, "B(B(B(?)))", "xxx?xxx");
         dueText(book, "D(D(k,l),D(m))", "aakblcbambcc");
@@ -59,7 +61,7 @@ public final class ExpansionTest {
     }
 
     private static void ringsAreGuarded() {
-        AbbreviationBook book = Checks.book("A=aA", "B=C(?)", "C=D?", "D=B_", "E=A(AE)");
+        Book book = Checks.book("A=aA", "B=C(?)", "C=D?", "D=B_", "E=A(AE)");
         dueText(book, "A", "a#");
         dueText(book, "AA", "a#a#");
         dueText(book, "B(q)", "#_q");
@@ -71,7 +73,7 @@ public final class ExpansionTest {
     }
 
     private static void depthIsBounded() {
-        AbbreviationBook book = new AbbreviationBook();
+        Book book = new Book();
         for (char letter = 'A'; letter < 'N'; letter++) {
             Checks.define(book, letter + "=" + (char) (letter - 'A' + 'a') + (char) (letter + 1));
         }
@@ -91,7 +93,7 @@ public final class ExpansionTest {
     }
 
     private static void guardedComesBeforeTooDeep() {
-        AbbreviationBook book = Checks.book("A=ABC", "B=b");
+        Book book = Checks.book("A=ABC", "B=b");
         book.set(1);
         dueText(book, "A", "#%$");
         book.set(2);
@@ -99,7 +101,7 @@ public final class ExpansionTest {
     }
 
     private static void argumentsAreExpandedWhereTheCallStands() {
-        AbbreviationBook book = Checks.book("A=?A(B)", "B=b", "C=A(?,C,B)");
+        Book book = Checks.book("A=?A(B)", "B=b", "C=A(?,C,B)");
         dueText(book, "A(A(x))", "x##");
         Checks.due("arguments first", "B0,1,0,1,0 A2,1,1,1,1 A0,0,1,2,1 B0,1,0,1,0 A2,1,1,1,1 A0,0,1,3,2",
                 Checks.traceOf(book));
@@ -112,7 +114,7 @@ public final class ExpansionTest {
     }
 
     private static void sixtyCallsAreTheMost() {
-        AbbreviationBook book = Checks.book("A=BBBBBBBBB", "B=", "C=", "D=z");
+        Book book = Checks.book("A=BBBBBBBBB", "B=", "C=", "D=z");
         dueText(book, "AAAAAA", "");
         Checks.due("expanded calls", 60, book.result(5));
         Checks.due("listed calls", 60, book.result(7));
@@ -122,8 +124,10 @@ public final class ExpansionTest {
         dueText(book, "AAAAAC(D,D,D,D,D,D)CCCC", "failed");
         dueText(book, "E(D)AAAAAE(D,D,D,D,D,D)CCC", "$$");
         dueText(book, "E(D)AAAAAE(D,D,D,D,D,D)CCCD", "failed");
-        // Calls that are not expanded do not count.
-        book.remove(1);
+    }
+
+    private static void callsThatAreNotExpandedDoNotCount() {
+        Book book = Checks.book("A=BBBBBBBBB");
         dueText(book, "AAAAAA", "$".repeat(54));
         dueText(book, "AAAAAABBBBBBBBBBBBB", "$".repeat(67));
         Checks.due("only the first 60 are listed", 60, book.result(7));
@@ -132,47 +136,64 @@ public final class ExpansionTest {
         Checks.due("none behind it", -1, book.trace(60, 0));
     }
 
+    private static Book longBook() {
+        return Checks.book("A=" + FIFTY, "B=", "C=AAAA", "D=??", "E=B(C?)");
+    }
+
     private static void twoHundredSignsAreTheMost() {
-        AbbreviationBook book = Checks.book("A=" + FIFTY, "B=", "C=AAAA", "D=??", "E=B(C?)");
-        dueText(book, "AAAA", "a".repeat(200));
-        dueText(book, "AAAAa", "failed");
-        dueText(book, "aAAAA", "failed");
-        dueText(book, "C", "a".repeat(200));
-        dueText(book, "C?", "failed");
-        dueText(book, "CX", "failed");
+        String full = "a".repeat(200);
+        dueText(longBook(), "AAAA", full);
+        dueText(longBook(), "AAAAa", "failed");
+        dueText(longBook(), "aAAAA", "failed");
+        dueText(longBook(), "C", full);
+        dueText(longBook(), "C?", "failed");
+        dueText(longBook(), "CX", "failed");
+        dueText(longBook(), "D(AA,AA)", full);
+        dueText(longBook(), "D(AA,AAa)", "failed");
+        dueText(longBook(), "B(B(C),C)C", full);
+    }
+
+    private static void argumentsHaveTheSameBound() {
+        Book book = longBook();
         dueText(book, "B(C)", "");
         dueText(book, "B(C_)", "failed");
         dueText(book, "X(C_)", "failed");
         dueText(book, "B(C,C)", "");
         Checks.due("two arguments are each measured alone", 400, book.trace(book.result(7) - 1, 5));
-        dueText(book, "D(AA,AA)", "a".repeat(200));
-        dueText(book, "D(AA,AAa)", "failed");
         dueText(book, "E", "");
         dueText(book, "E(_)", "failed");
-        dueText(book, "B(B(C),C)C", "a".repeat(200));
     }
 
-    /** Six arguments of 200 signs each, handed on by eleven bodies. */
-    private static void longArgumentsGoThroughAllBodies() {
-        AbbreviationBook book = Checks.book("X=" + FIFTY);
+    /** Six arguments, handed on by eleven bodies. */
+    private static Book handingOn(String last) {
+        Book book = Checks.book("X=" + FIFTY);
         for (char letter = 'A'; letter < 'L'; letter++) {
             Checks.define(book, letter + "=" + (char) (letter + 1) + "(?,?,?,?,?,?)");
         }
-        Checks.define(book, "L=?");
+        Checks.define(book, "L=" + last);
         book.set(12);
-        dueText(book, "A(XXXX,XXXX,XXXX,XXXX,XXXX,XXXX)", "a".repeat(200));
+        return book;
+    }
+
+    private static void longArgumentsGoThroughAllBodies() {
+        Book book = handingOn("?");
+        Checks.type(book, "A(XXXX,XXXX,XXXX,XXXX,XXXX,XXXX)");
+        Checks.due("the length", 200, book.expand());
         Checks.due("expanded calls", 36, book.result(5));
         Checks.due("the arguments of L", 1200, book.trace(24, 5));
         Checks.due("what is measured", 20, book.lengthOf(0, 20));
-        Checks.define(book, "L=????");
-        dueText(book, "A(X,X,X,X,X,X)", "a".repeat(200));
-        dueText(book, "A(X,X,X,X_,X,X)", "failed");
-        Checks.define(book, "L=");
-        dueText(book, "A(XXXX,XXXX,XXXX,XXXX,XXXX,XXXX)", "");
+        Checks.due("the first sign", 'a', book.sign(0));
+        Checks.due("the last sign", 'a', book.sign(199));
+        Checks.due("behind it", -1, book.sign(200));
+        Book four = handingOn("????");
+        Checks.type(four, "A(X,X,X,X,X,X)");
+        Checks.due("four of them", 200, four.expand());
+        dueText(four, "A(X,X,X,X_,X,X)", "failed");
+        dueText(handingOn(""), "A(XXXX,XXXX,XXXX,XXXX,XXXX,XXXX)", "");
     }
 
     private static void failuresLeaveTheResult() {
-        AbbreviationBook book = Checks.book("A=" + FIFTY, "B=x?");
+        Book book = Checks.book("A=" + FIFTY, "B=x?");
         dueText(book, "B(y)", "xy");
         Checks.type(book, "AAAAA");
         Checks.due("a failure", -1, book.expand());
@@ -186,7 +207,7 @@ public final class ExpansionTest {
 
     /** An expansion that stops in the middle of many open calls is no burden for the next ones. */
     private static void failuresLeaveNothingBehind() {
-        AbbreviationBook book = Checks.book("A=" + FIFTY, "B=x?");
+        Book book = Checks.book("A=" + FIFTY, "B=x?");
         Checks.type(book, "B(B(B(B(B(B(B(B(AAAAA))))))))");
         for (int i = 1; i <= 300; i++) {
             book.expand();
@@ -197,7 +218,7 @@ public final class ExpansionTest {
     }
 
     private static void expandIsUndoable() {
-        AbbreviationBook book = Checks.book("A=" + FIFTY);
+        Book book = Checks.book("A=" + FIFTY);
         Checks.expand(book, "b");
         Checks.expand(book, "cdC");
         Checks.expand(book, "AAAAAA");
@@ -215,11 +236,11 @@ public final class ExpansionTest {
     private static void incompleteTextsAreRefused() {
         for (String text : new String[] {"A(", "A(b,", "A(B(c)", ")", "a,", "a(", "A(,,,,,,)", "aB!"}) {
             Checks.refuses("expand of " + text, IllegalArgumentException.class, () -> {
-                AbbreviationBook book = Checks.book("A=a?");
+                Book book = Checks.book("A=a?");
                 Checks.expand(book, "A(b)");
                 Checks.type(book, text);
                 return book;
-            }, AbbreviationBook::expand);
+            }, Book::expand);
         }
     }
 }

@@ -17,7 +17,7 @@ public final class HistoryTest {
     }
 
     private static void undoRestoresEachPartOfTheState() {
-        AbbreviationBook book = Checks.book("A=a?");
+        Book book = Checks.book("A=a?");
         Checks.expand(book, "A(b)");
         String counts = Checks.countsOf(book);
         Checks.type(book, "xA(cd)B");
@@ -48,7 +48,7 @@ public final class HistoryTest {
     }
 
     private static void sixStatesAreSaved() {
-        AbbreviationBook book = new AbbreviationBook();
+        Book book = new Book();
         for (int depth = 1; depth <= 10; depth++) {
             book.set(depth);
             Checks.due("saved states", depth < 6 ? depth : 6, book.count(6));
@@ -63,7 +63,7 @@ public final class HistoryTest {
     }
 
     private static void savedStatesGoRound() {
-        AbbreviationBook book = new AbbreviationBook();
+        Book book = new Book();
         for (int round = 0; round < 5; round++) {
             for (int depth = 1; depth <= 7; depth++) {
                 book.set(depth);
@@ -77,7 +77,7 @@ public final class HistoryTest {
     }
 
     private static void undoIsNotUndoable() {
-        AbbreviationBook book = new AbbreviationBook();
+        Book book = new Book();
         book.set(1);
         book.set(2);
         book.undo();
@@ -87,15 +87,15 @@ public final class HistoryTest {
         book.undo();
         Checks.due("what set(1) found", 8, book.count(2));
         Checks.refuses("undo without a saved state", IllegalStateException.class, () -> {
-            AbbreviationBook empty = new AbbreviationBook();
+            Book empty = new Book();
             Checks.type(empty, "ab");
             empty.keep(1);
             return empty;
-        }, AbbreviationBook::undo);
+        }, Book::undo);
     }
 
     private static void keepTakesASnapshot() {
-        AbbreviationBook book = new AbbreviationBook();
+        Book book = new Book();
         Checks.due("keep without definitions", 0, book.keep(0));
         Checks.define(book, "A=a");
         Checks.define(book, "Z=z");
@@ -118,7 +118,7 @@ public final class HistoryTest {
     }
 
     private static void goBackRestores() {
-        AbbreviationBook book = Checks.book("A=a?", "B=b");
+        Book book = Checks.book("A=a?", "B=b");
         book.set(5);
         Checks.expand(book, "A(B)");
         book.keep(1);
@@ -138,7 +138,7 @@ public final class HistoryTest {
     }
 
     private static void goBackIsUndoable() {
-        AbbreviationBook book = Checks.book("A=a");
+        Book book = Checks.book("A=a");
         book.keep(0);
         book.set(3);
         Checks.due("goBack", 1, book.goBack(0));
@@ -162,7 +162,7 @@ public final class HistoryTest {
     }
 
     private static void theSlotsAreNoPartOfTheState() {
-        AbbreviationBook book = Checks.book("A=a");
+        Book book = Checks.book("A=a");
         book.keep(0);
         book.undo();
         Checks.due("none is defined", 0, book.count(0));
@@ -170,9 +170,9 @@ public final class HistoryTest {
     }
 
     /** A book with a snapshot in slot 0 alone. */
-    private static Supplier<AbbreviationBook> kept() {
+    private static Supplier<Book> kept() {
         return () -> {
-            AbbreviationBook book = Checks.book("A=a?", "B=b");
+            Book book = Checks.book("A=a?", "B=b");
             book.keep(0);
             Checks.expand(book, "A(B)");
             return book;
