@@ -1,3 +1,5 @@
+import java.util.function.ToIntFunction;
+
 /** The boundary sentences of promises 14 to 19: the answers for special cases. */
 public final class DefinitionQueryBoundsTest {
     public static void main(String[] args) {
@@ -12,6 +14,7 @@ public final class DefinitionQueryBoundsTest {
         chainsAtTheEnds();
         chainsThatMeetRings();
         ifDefinedAtTheEnds();
+        queriesChangeNothing();
         Checks.end();
     }
 
@@ -227,5 +230,38 @@ public final class DefinitionQueryBoundsTest {
         Checks.due("the buffer stays", text.length(), book.count(7));
         book.define(letter - 'A');
         Checks.due("when it is defined", Checks.set(want), book.rings());
+    }
+
+    // "queries about definitions; nothing changes"
+    private static void queriesChangeNothing() {
+        String want = Checks.factsOf(asked());
+        for (int i = 0; i < 26; i++) {
+            int letter = i;
+            for (int j = 0; j <= 5; j++) {
+                int what = j;
+                dueUnchanged("body " + letter + ", " + what, want, book -> book.body(letter, what));
+                dueUnchanged("uses " + letter + ", " + what, want, book -> book.uses(letter, what % 4));
+            }
+            dueUnchanged("chain " + letter, want, book -> book.chain(letter));
+            dueUnchanged("ifDefined " + letter, want, book -> book.ifDefined(letter));
+        }
+        dueUnchanged("rings", want, Book::rings);
+        dueUnchanged("missing", want, Book::missing);
+    }
+
+    /** Four states are saved, a snapshot is in slot 0, and the buffer holds another text. */
+    private static Book asked() {
+        Book book = Checks.book("A=a?B", "Z=A(Z)");
+        Checks.expand(book, "A(b)?");
+        book.keep(0);
+        book.set(2);
+        Checks.type(book, "B(Z)c");
+        return book;
+    }
+
+    private static void dueUnchanged(String query, String want, ToIntFunction<Book> answer) {
+        Book book = asked();
+        answer.applyAsInt(book);
+        Checks.due(query + " changes nothing", want, Checks.factsOf(book));
     }
 }

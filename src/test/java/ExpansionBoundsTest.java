@@ -1,6 +1,12 @@
 /** The boundary sentences of "Expansion", "Trace" and "Settings", and of promises 5 and 6. */
 public final class ExpansionBoundsTest {
     public static void main(String[] args) {
+        smallSignsAreWrittenAsTheyAre();
+        whatAResultConsistsOf();
+        fromLeftToRight();
+        fromTheInsideToTheOutside();
+        argumentsStandWhereTheCallStands();
+        depthsOfExpandedCalls();
         eachHoleWithEachNumberOfArguments();
         holesOutsideOfBodies();
         argumentsWithoutAHole();
@@ -25,6 +31,75 @@ public final class ExpansionBoundsTest {
 
     private static void dueText(Book book, String text, String want) {
         Checks.due("expansion of " + text, want, Checks.expand(book, text));
+    }
+
+    // "A small letter or "_" is written as it is."
+    private static void smallSignsAreWrittenAsTheyAre() {
+        String signs = "abcdefghijklmnopqrstuvwxyz_";
+        dueText(new Book(), signs, signs);
+        for (int i = 0; i < signs.length(); i++) {
+            String sign = signs.substring(i, i + 1);
+            dueText(new Book(), sign, sign);
+            Book book = Checks.book("A=" + sign + "?");
+            dueText(book, "A", sign);
+            dueText(book, sign + "A(" + sign + sign + ")", sign.repeat(4));
+            Checks.due("code of " + sign, sign.charAt(0), book.sign(3));
+        }
+    }
+
+    // "a result, which consists of small letters, "_" and the signs "#", "%", "$" and "?""
+    private static void whatAResultConsistsOf() {
+        Book book = Checks.book("A=a?AC(?)", "C=cDB", "D=d");
+        book.set(2);
+        dueText(book, "?A(m)z_", "?am#c%$z_");
+        for (int what = 1; what <= 4; what++) {
+            Checks.due("each sign once", 1, book.result(what));
+        }
+    }
+
+    // "The expansion goes from left to right"; "first its arguments are expanded, from left to right"
+    private static void fromLeftToRight() {
+        Book book = Checks.book("A=?U?V?");
+        dueText(book, "aAbB(C,D(E),F)cGd", "a$$b$c$d");
+        Checks.due("the trace", "U1,1,0,1,0 V1,1,0,1,0 A0,0,0,2,0 C1,0,0,1,0 E1,0,0,1,0 D1,0,1,1,1"
+                + " F1,0,0,1,0 B1,0,3,1,3 G1,0,0,1,0", Checks.traceOf(book));
+        Checks.define(book, "B=x?y?z?");
+        dueText(book, "B(A(a,b,c),A(d,e),A(f))", "xa$b$cyd$e$zf$$");
+    }
+
+    // "a call is finished when its arguments are expanded and .. its body is expanded"
+    private static void fromTheInsideToTheOutside() {
+        Book book = Checks.book("A=xB(?)y", "B=C(?)");
+        dueText(book, "A(Z)", "x$y");
+        Checks.due("the trace", "Z1,0,0,1,0 C1,2,1,1,1 B0,1,1,1,1 A0,0,1,3,1", Checks.traceOf(book));
+    }
+
+    // "Arguments of a call stand where the call stands, not in the body of its abbreviation."
+    private static void argumentsStandWhereTheCallStands() {
+        Book book = Checks.book("A=?", "B=A(A(A(B)))", "C=C(C)");
+        dueText(book, "A(A(U))", "$");
+        Checks.due("in no body", "U1,0,0,1,0 A0,0,1,1,1 A0,0,1,1,1", Checks.traceOf(book));
+        dueText(book, "B", "#");
+        Checks.due("in one body", "B2,1,0,1,0 A0,1,1,1,1 A0,1,1,1,1 A0,1,1,1,1 B0,0,0,1,0", Checks.traceOf(book));
+        dueText(book, "C(C)", "#");
+        Checks.due("in its own body", "C2,1,0,1,0 C2,1,1,1,1 C0,0,0,1,0 C2,1,0,1,0 C2,1,1,1,1 C0,0,1,1,1",
+                Checks.traceOf(book));
+        book.set(1);
+        dueText(book, "A(A(A(x)))", "x");
+        dueText(book, "B", "%");
+        Checks.due("too deep", "B2,1,0,1,0 A3,1,1,1,1 A3,1,1,1,1 A3,1,1,1,1 B0,0,0,1,0", Checks.traceOf(book));
+    }
+
+    // "an expanded call, whose depth is the number of bodies that are open in it, its own one included"
+    private static void depthsOfExpandedCalls() {
+        String[] texts = {"x", "U(V)", "A(x)", "UA(U)U", "A(A(A(x)))", "B(A(x))", "A(B(x))", "C(x)", "A(C(x))",
+            "C(x)A", "A(x)C", "U(C)"};
+        int[] want = {0, 0, 1, 1, 1, 2, 2, 3, 3, 3, 3, 3};
+        Book book = Checks.book("A=?", "B=A(?)", "C=B(?)");
+        for (int i = 0; i < texts.length; i++) {
+            Checks.expand(book, texts[i]);
+            Checks.due("greatest depth of " + texts[i], want[i], book.result(6));
+        }
     }
 
     // "A hole of a body is filled with the argument .. that has the number of the hole ..; with

@@ -1,3 +1,5 @@
+import java.util.function.ToDoubleFunction;
+
 /** The boundary sentences of promises 20 to 25: the answers for special cases. */
 public final class ExpansionQueryBoundsTest {
     public static void main(String[] args) {
@@ -9,10 +11,12 @@ public final class ExpansionQueryBoundsTest {
         measuredToSixtyCalls();
         measuredToTheDepth();
         measuredHoles();
+        measuredAsWritten();
         definedLetters();
         callsOfAllBodies();
         expansionsSoFar();
         meansOfHoles();
+        queriesChangeNothing();
         Checks.end();
     }
 
@@ -183,6 +187,34 @@ public final class ExpansionQueryBoundsTest {
         dueLength(Checks.book("A=B(?)??????", "B=???"), 'A', 5, 35);
     }
 
+    // "how long the result of a call .. would be": as long as when it is written.
+    private static void measuredAsWritten() {
+        String[] definitions = {"A=B(?,U(?)C)A(?)", "B=?x?C(?)?", "C=D(?,,?)_?", "D=EE?yE(?)", "E=zF", "F=G(A)?", "G=?"};
+        for (int depth = 1; depth <= 8; depth++) {
+            for (int length = 0; length <= 20; length++) {
+                Book book = Checks.book(definitions);
+                book.set(depth);
+                for (char letter = 'A'; letter <= 'H'; letter++) {
+                    dueAsWritten(book, letter, length);
+                }
+            }
+        }
+    }
+
+    private static void dueAsWritten(Book book, char letter, int length) {
+        int holes = Math.max(0, book.body(letter - 'A', 1));
+        String text = letter + (holes == 0 ? "" : "(" + ("a".repeat(length) + ",").repeat(holes - 1)
+                + "a".repeat(length) + ")");
+        if (text.length() > 60 || book.body(letter - 'A', 0) < 0) {
+            return;
+        }
+        book.clearBuffer();
+        for (int i = 0; i < text.length(); i++) {
+            book.append(text.charAt(i));
+        }
+        Checks.due("lengthOf as " + text, book.expand(), book.lengthOf(letter - 'A', length));
+    }
+
     // "0 the number of abbreviations that are defined, 1 the set of these"
     private static void definedLetters() {
         Book book = new Book();
@@ -269,5 +301,41 @@ public final class ExpansionQueryBoundsTest {
 
     private static void dueMean(Book book, double want) {
         Checks.due("the mean", Double.doubleToLongBits(want), Double.doubleToLongBits(book.meanHoles()));
+    }
+
+    // "queries about expansions; nothing changes"
+    private static void queriesChangeNothing() {
+        String want = Checks.factsOf(asked());
+        for (int i = 0; i < 26; i++) {
+            int letter = i;
+            dueUnchanged("lengthOf " + letter, want, book -> book.lengthOf(letter, letter % 21));
+            dueUnchanged("sign " + i, want, book -> book.sign(letter));
+        }
+        for (int i = 0; i <= 7; i++) {
+            int what = i;
+            dueUnchanged("result " + what, want, book -> book.result(what));
+            dueUnchanged("count " + what, want, book -> book.count(what));
+            for (int place = 0; place <= 60 && what <= 5; place += 4) {
+                int index = place;
+                dueUnchanged("trace " + index + ", " + what, want, book -> book.trace(index, what));
+            }
+        }
+        dueUnchanged("meanHoles", want, Book::meanHoles);
+    }
+
+    /** Four states are saved, a snapshot is in slot 1, and the buffer holds another text. */
+    private static Book asked() {
+        Book book = Checks.book("A=a?B(?)B", "B=?C?");
+        Checks.expand(book, "A(b,A)?");
+        book.keep(1);
+        book.set(2);
+        Checks.type(book, "AB(c)");
+        return book;
+    }
+
+    private static void dueUnchanged(String query, String want, ToDoubleFunction<Book> answer) {
+        Book book = asked();
+        answer.applyAsDouble(book);
+        Checks.due(query + " changes nothing", want, Checks.factsOf(book));
     }
 }

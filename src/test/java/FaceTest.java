@@ -4,8 +4,9 @@ import java.lang.reflect.Method;
 import java.lang.reflect.Modifier;
 import java.util.Arrays;
 import java.util.TreeSet;
+import java.util.function.ToDoubleFunction;
 
-/** The public face: what the document lists, and nothing else. */
+/** The public face: what the document lists, and nothing else; an object's last call. */
 public final class FaceTest {
     private static final String INDEX = "IndexOutOfBoundsException";
     private static final String ARGUMENT = "IllegalArgumentException";
@@ -45,6 +46,7 @@ public final class FaceTest {
         theMethods(face);
         theConstructor(face);
         theFields(face);
+        theLastCallIsAnswered();
         Checks.end();
     }
 
@@ -95,5 +97,56 @@ public final class FaceTest {
                 Checks.due("NONE", Modifier.PUBLIC | Modifier.STATIC | Modifier.FINAL, field.getModifiers());
             }
         }
+    }
+
+    // "An object is used for at most 512 calls": the last one is answered as those before.
+    private static void theLastCallIsAnswered() {
+        dueAsTheLast("define", 0, book -> book.define(1));
+        dueAsTheLast("remove", 0, book -> book.remove(0));
+        dueAsTheLast("exchange", 1, book -> book.exchange(0, 1));
+        dueAsTheLast("set", 8, book -> book.set(12));
+        dueAsTheLast("expand", 3, Book::expand);
+        dueAsTheLast("append", 5, book -> book.append('b'));
+        dueAsTheLast("clearBuffer", 4, Book::clearBuffer);
+        dueAsTheLast("firstError", 4, Book::firstError);
+        dueAsTheLast("load", 3, book -> book.load(0));
+        dueAsTheLast("undo", 5, Book::undo);
+        dueAsTheLast("keep", 1, book -> book.keep(1));
+        dueAsTheLast("goBack", 1, book -> book.goBack(0));
+        dueAsTheLast("body", 3, book -> book.body(0, 0));
+        dueAsTheLast("uses", Checks.set("B"), book -> book.uses(0, 0));
+        dueAsTheLast("rings", 0, Book::rings);
+        dueAsTheLast("missing", Checks.set("B"), Book::missing);
+        dueAsTheLast("chain", 1, book -> book.chain(0));
+        dueAsTheLast("ifDefined", Checks.set("AB"), book -> book.ifDefined(1));
+        dueAsTheLast("sign", 'x', book -> book.sign(1));
+        dueAsTheLast("result", 3, book -> book.result(0));
+        dueAsTheLast("trace", 1, book -> book.trace(0, 2));
+        dueAsTheLast("lengthOf", 22, book -> book.lengthOf(0, 20));
+        dueAsTheLast("count", 502, book -> book.count(3));
+        dueAsTheLast("meanHoles", 1.0, Book::meanHoles);
+    }
+
+    private static void dueAsTheLast(String call, double want, ToDoubleFunction<Book> answer) {
+        Book book = new Book();
+        for (char sign : "a?B".toCharArray()) {
+            book.append(sign);
+        }
+        book.define(0);
+        for (char sign : "A(x)".toCharArray()) {
+            book.append(sign);
+        }
+        book.keep(0);
+        for (int i = 10; i < 512; i++) {
+            book.expand();
+        }
+        Checks.due(call + " as the 512th call", want, answer.applyAsDouble(book));
+        boolean isLast = false;
+        try {
+            book.rings();
+        } catch (AssertionError e) {
+            isLast = true;
+        }
+        Checks.due(call + " is the 512th call", true, isLast);
     }
 }
